@@ -583,7 +583,7 @@ public final class KeptLight {
     private int unlitWithOil(int n, int oil) {
         thought.begin(now);
         thought.station.oil = oil;
-        return unlitInThought(n);
+        return thought.passHours(now.fleet, n);
     }
 
     public int better(int hour, int n) {
@@ -598,7 +598,7 @@ public final class KeptLight {
         for (int k = 0; k < now.station.crew.count; k++) {
             thought.begin(now);
             thought.station.assign(hour, k);
-            int unlit = unlitInThought(n);
+            int unlit = thought.passHours(now.fleet, n);
             if (unlit < fewest) {
                 fewest = unlit;
                 best = k;
@@ -618,7 +618,7 @@ public final class KeptLight {
         int planned = unlitAsPlanned(n);
         thought.begin(now);
         assignAll(thought.station, shelfAt(s));
-        return unlitInThought(n) - planned;
+        return thought.passHours(now.fleet, n) - planned;
     }
 
     public int idle(int n) {
@@ -630,7 +630,7 @@ public final class KeptLight {
         for (int k = 0; k < now.station.crew.count; k++) {
             thought.begin(now);
             thought.station.relieve(k);
-            if (unlitInThought(n) <= planned) {
+            if (thought.passHours(now.fleet, n) <= planned) {
                 keepers |= 1 << k;
             }
         }
@@ -639,12 +639,7 @@ public final class KeptLight {
 
     private int unlitAsPlanned(int n) {
         thought.begin(now);
-        return unlitInThought(n);
-    }
-
-    private int unlitInThought(int n) {
-        thought.passHours(now.fleet, n);
-        return thought.unlit;
+        return thought.passHours(now.fleet, n);
     }
 
     // ---- image and status
@@ -986,13 +981,14 @@ public final class KeptLight {
         static final int MOST_KEEPERS = 6;
 
         final int[] ranks = new int[MOST_KEEPERS];
+        final int[] lasts = new int[MOST_KEEPERS];
         final int[] tired = new int[MOST_KEEPERS];
         final int[] tended = new int[MOST_KEEPERS];
         final int[] slept = new int[MOST_KEEPERS];
         int count = 0;
 
         boolean has(int keeper) {
-            return isWithin(keeper, 0, count - 1);
+            return keeper >= 0 && keeper < count;
         }
 
         boolean isFull() {
@@ -1004,6 +1000,7 @@ public final class KeptLight {
                 return NONE;
             }
             ranks[count] = rank;
+            lasts[count] = lastsIn(rank);
             tired[count] = 0;
             tended[count] = 0;
             slept[count] = 0;
@@ -1028,7 +1025,11 @@ public final class KeptLight {
         }
 
         int lastsOf(int keeper) {
-            switch (rankOf(keeper)) {
+            return has(keeper) ? lasts[keeper] : 0;
+        }
+
+        private static int lastsIn(int rank) {
+            switch (rank) {
                 case HEAD:
                     return 12;
                 case BOY:
@@ -1039,7 +1040,7 @@ public final class KeptLight {
         }
 
         boolean isAwake(int keeper) {
-            return has(keeper) && tiredOf(keeper) < lastsOf(keeper);
+            return has(keeper) && tired[keeper] < lasts[keeper];
         }
 
         /** An hour goes by: the one on watch worked it if he was awake, the others rested. */
@@ -1063,6 +1064,7 @@ public final class KeptLight {
 
         void become(Crew crew) {
             System.arraycopy(crew.ranks, 0, ranks, 0, MOST_KEEPERS);
+            System.arraycopy(crew.lasts, 0, lasts, 0, MOST_KEEPERS);
             System.arraycopy(crew.tired, 0, tired, 0, MOST_KEEPERS);
             System.arraycopy(crew.tended, 0, tended, 0, MOST_KEEPERS);
             System.arraycopy(crew.slept, 0, slept, 0, MOST_KEEPERS);
@@ -1225,7 +1227,7 @@ public final class KeptLight {
         int count = 0;
 
         boolean has(int ship) {
-            return isWithin(ship, 0, count - 1);
+            return ship >= 0 && ship < count;
         }
 
         boolean isFull() {
@@ -1333,7 +1335,7 @@ public final class KeptLight {
         int count = 0;
 
         boolean has(int entry) {
-            return isWithin(entry, 0, count - 1);
+            return entry >= 0 && entry < count;
         }
 
         void write(int hour, int sort, int ship, int writer) {
@@ -1517,10 +1519,12 @@ public final class KeptLight {
             nextPlace = world.fleet.firstPlaceOf(station.hour);
         }
 
-        void passHours(Fleet fleet, int n) {
+        /** Lets n hours pass: how many were unlit since the thought began. */
+        int passHours(Fleet fleet, int n) {
             for (int h = 0; h < n; h++) {
                 passHour(fleet);
             }
+            return unlit;
         }
 
         void passHour(Fleet fleet) {

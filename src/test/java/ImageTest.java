@@ -160,8 +160,9 @@ public final class ImageTest {
         light.show(3, 0);
         light.show(4, 1);
         light.show(5, 2);
+        light.show(7, 2);
         light.show(1, -1);
-        Check.due("status(19)", light.status(19), 5);
+        Check.due("status(19)", light.status(19), 6);
         Check.due("back()", light.back(), 1);
         Check.due("status(17)", light.status(17), 2);
         Check.due("status(12)", light.status(12), 1);
@@ -177,7 +178,11 @@ public final class ImageTest {
         Check.due("says(3, 0)", light.says(3, 0), 50);
         light.image();
         light.show(4, 1);
+        light.ship(6, 90);
+        light.show(0, 2);
         light.back();
+        Check.due("holds(0), a ship that is no more", light.holds(0), -1);
+        Check.due("holds(7), nothing for long", light.holds(7), -1);
         light.ship(6, 80);
         Check.due("says(4, 0), kept", light.says(4, 0), 70);
     }

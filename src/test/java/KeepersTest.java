@@ -169,6 +169,9 @@ public final class KeepersTest {
         Check.due("tired HAND", light.keeperOf(1, 1), 7);
         Check.due("tended by BOY", light.keeperOf(2, 4), 0);
         Check.due("hours of BOY", light.keeperOf(2, 3), 0);
+        light.plan(0, 2);
+        light.plan(23, 2);
+        Check.due("hours of BOY, the first and the last", light.keeperOf(2, 3), 2);
     }
 
     private static void promise21Refused() {

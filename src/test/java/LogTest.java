@@ -13,6 +13,8 @@ public final class LogTest {
         promise27Difference();
         promise28Differences();
         promise27LitAfterAll();
+        promise27FirstEntry();
+        promise28TrueLog();
         promise37Judge();
         promise37Refused();
         Check.end();
@@ -195,6 +197,25 @@ public final class LogTest {
         Check.due("difference(0, 2)", light.difference(0, 2), 0);
     }
 
+    /** A BOY tired by a day without entries sleeps in the first hour of the dark. */
+    private static void promise27FirstEntry() {
+        KeptLight light = new KeptLight();
+        light.keeper(2);
+        Check.watch(light, 0, 12, 18);
+        light.tell(0, 0);
+        light.ship(3, 18);
+        light.pass(19);
+        Check.due("log(0, 1)", light.log(0, 1), 1);
+        Check.due("differences(0)", light.differences(0), 1);
+        Check.due("difference(0, 0)", light.difference(0, 0), 18);
+    }
+
+    private static void promise28TrueLog() {
+        KeptLight light = foggy();
+        Check.due("differences(NONE)", light.differences(-1), 0);
+        Check.due("difference(0, 0)", light.difference(0, 0), BAD);
+    }
+
     private static void promise37Judge() {
         KeptLight light = foggy();
         Check.ints(light, 0, 1, -1, 3, -1, 4, 1, 4, 0, 2, -1, 6, 3);
@@ -217,6 +238,8 @@ public final class LogTest {
         light.set(2, 1, -1);
         Check.due("judge(0, 2, 1), a long whose low half fits", light.judge(0, 2, 1), 0);
         Check.due("refusals", Check.refusals(light), 0);
+        Check.ints(light, 3, -1, -1);
+        Check.due("judge(13, 3, 1), told nothing where nothing is", light.judge(13, 3, 1), 0);
         KeptLight no = new KeptLight();
         no.row(0, 0, 40);
         Check.due("judge(0, 0, 20) of no entries", no.judge(0, 0, 20), 0);

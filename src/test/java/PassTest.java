@@ -199,6 +199,8 @@ public final class PassTest {
         Check.due("shipOf(0, 2)", light.shipOf(0, 2), 1);
         Check.due("days(60)", light.days(60), 30);
         Check.due("status(0)", light.status(0), 72);
+        Check.due("days(1)", light.days(1), 1);
+        Check.due("status(0)", light.status(0), 73);
         Check.due("status(12)", light.status(12), 3);
     }
 

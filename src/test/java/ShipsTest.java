@@ -114,6 +114,7 @@ public final class ShipsTest {
             Check.due("shipAt(9, " + i + ")", light.shipAt(9, i), atNine[i]);
         }
         Check.due("shipAt(8, 0)", light.shipAt(8, 0), 3);
+        Check.due("shipAt(0, 0)", light.shipAt(0, 0), -1);
         Check.due("shipAt(8, 1)", light.shipAt(8, 1), -1);
         Check.due("shipAt(10, 0)", light.shipAt(10, 0), 6);
         Check.due("shipAt(10, 1)", light.shipAt(10, 1), -1);

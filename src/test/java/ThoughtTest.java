@@ -81,7 +81,22 @@ public final class ThoughtTest {
         Check.due("came", light.status(11), 1);
     }
 
+    /** A lamp that has burnt an hour untended is out in the next, in thought too. */
+    private static void promise30Untended() {
+        KeptLight light = new KeptLight();
+        light.keeper(0);
+        light.plan(0, 0);
+        light.tell(3, 9);
+        light.pass(1);
+        dueWould(light, 1, 0, 7);
+        light.pass(1);
+        dueWould(light, 1, 1, 7);
+        Check.due("fails()", light.fails(), 2);
+        Check.due("oil(1)", light.oil(1), 0);
+    }
+
     private static void promise30Refused() {
+        promise30Untended();
         KeptLight light = new KeptLight();
         Check.due("would(-1, 0)", light.would(-1, 0), BAD);
         Check.due("would(201, 0)", light.would(201, 0), BAD);
@@ -120,8 +135,14 @@ public final class ThoughtTest {
         Check.due("fails() in the last", light.fails(), 199);
         light.tell(3, 72);
         Check.due("fails() beyond", light.fails(), -1);
-        light.pass(17);
-        Check.due("fails() 17 later", light.fails(), 216);
+        light.tell(0, 9);
+        Check.watch(light, 0, 0, 8);
+        light.tell(3, 79);
+        Check.due("fails() in the last of longer nights", light.fails(), 199);
+        light.tell(3, 80);
+        Check.due("fails() an hour beyond", light.fails(), -1);
+        light.pass(1);
+        Check.due("fails() an hour later", light.fails(), 200);
         Check.due("refusals", Check.refusals(light), 0);
     }
 
@@ -278,7 +299,10 @@ public final class ThoughtTest {
         Check.due("other(1, 5), no such keeper", light.other(1, 5), BAD);
         light.set(1, 3, -2);
         Check.due("other(1, 5), -2", light.other(1, 5), BAD);
-        Check.due("status(12)", light.status(12), 7);
+        light.set(1, 3, 0);
+        light.set(1, 0, 1);
+        Check.due("other(1, 5), no such keeper at first", light.other(1, 5), BAD);
+        Check.due("status(12)", light.status(12), 8);
         Check.due("status(13)", light.status(13), 1);
         Check.due("status(14)", light.status(14), 1);
     }
@@ -306,6 +330,14 @@ public final class ThoughtTest {
         light.tell(3, 9);
         // With oil for nine hours, whose evening hours are dark leaves oil to the others.
         Check.due("idle(24), too little oil", light.idle(24), 62);
+        KeptLight ends = new KeptLight();
+        ends.keeper(2);
+        ends.keeper(2);
+        ends.tell(3, 500);
+        ends.plan(0, 0);
+        ends.plan(23, 1);
+        Check.due("idle(24), the first hour and the last", ends.idle(24), 0);
+        Check.due("idle(23)", ends.idle(23), 2);
     }
 
     private static void thoughtsChangeNothing() {
