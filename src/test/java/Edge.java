@@ -10,9 +10,10 @@ import java.util.regex.Matcher;
 import java.util.regex.Pattern;
 
 /**
- * Makes the calls at one edge that the document names, each written as "call(1, 2) = answer" (a line each, or with a semicolon
- * between), on a new object, and compares every answer. Behind each call that is refused, or that only asks, the object must show in all that can be
- * asked of it the same as another that was spared the call, but for the count of refusals.
+ * Makes the calls at one edge that the document names, each written as "call(1, 2) = answer" (a line each, or with a
+ * semicolon between), on a new object, and compares every answer. Behind each call that is refused, or that only asks,
+ * the object must show in all that can be asked of it the same as another that was spared the call, but for the count
+ * of refusals.
  */
 final class Edge {
     /** As many calls as the document gives one object. */
@@ -21,7 +22,8 @@ final class Edge {
     private static final int FULL = -106;
     private static final int FIRST_COUNT = 12;
     private static final Pattern FORM = Pattern.compile("(\\w+)\\(([^)]*)\\)(?: = (-?\\d+))?");
-    private static final Set<String> ASKING = Set.of("element", "holds", "says", "weather", "dark", "keeperOf", "shipOf",
+    private static final Set<String> ASKING = Set.of("element", "holds", "says", "weather", "dark", "keeperOf",
+    "shipOf",
         "shipAt", "many", "log", "logged", "difference", "differences", "unlit", "would", "fails", "comes", "oil",
         "better", "other", "idle", "judge", "status");
     /** What these answer may be any number, so that none of it says that the call was refused. */
@@ -98,7 +100,8 @@ final class Edge {
         Class<?>[] types = method.getParameterTypes();
         Object[] given = new Object[numbers.length];
         for (int i = 0; i < numbers.length; i++) {
-            given[i] = types[i] == long.class ? (Object) Long.valueOf(numbers[i]) : (Object) Integer.valueOf(numbers[i]);
+            boolean isLong = types[i] == long.class;
+            given[i] = isLong ? (Object) Long.valueOf(numbers[i]) : (Object) Integer.valueOf(numbers[i]);
         }
         return new Call(form.group(0), method, given, hasAnswer ? Long.parseLong(form.group(3)) : 0);
     }

@@ -74,7 +74,8 @@ public final class EdgeHourTest {
     /** Terms 2, "In this order": SHIPS find the LAMP of their own HOUR. */
     private static void lampAheadOfTheShips() {
         Edge.holds("LAMP ahead of SHIPS", """
-            keeper(0) = 0; plan(1, 0) = -1; tell(3, 9) = 0; ship(5, 0) = 0; ship(5, 1) = 1; ship(5, 2) = 2; ship(5, 3) = 3
+            keeper(0) = 0; plan(1, 0) = -1; tell(3, 9) = 0; ship(5, 0) = 0; ship(5, 1) = 1; ship(5, 2) = 2
+            ship(5, 3) = 3
             pass(4) = 2; shipOf(0, 2) = 1; shipOf(1, 2) = 0; shipOf(2, 2) = 0; shipOf(3, 2) = 1
             """);
     }
@@ -185,7 +186,10 @@ public final class EdgeHourTest {
             """);
     }
 
-    /** Terms 2, "if OIL is WICK at least: LIT, OIL is WICK less, UNTENDED 0 if it is TENDED": one less, as much, one more. */
+    /**
+     * Terms 2, "if OIL is WICK at least: LIT, OIL is WICK less, UNTENDED 0 if it is TENDED": one less, as much, one
+     * more.
+     */
     private static void oilAndWickTended() {
         Edge.holds("OIL and WICK, TENDED", "keeper(0) = 0\n", Edge.watch(0, 0, 5), """
             tell(3, 0) = 0; pass(1) = 1; status(3) = 0; status(1) = 0
@@ -245,7 +249,8 @@ public final class EdgeHourTest {
 
     /** Terms 2, "SIGNAL: in FOG, if it is TENDED": nobody, one who is awake, one who is ASLEEP. */
     private static void signalTended() {
-        Edge.holds("SIGNAL TENDED", NO_NIGHT, Edge.sky("f9", 1), "keeper(2) = 0; tell(4, 9) = 0\n", Edge.watch(0, 1, 8), """
+        Edge.holds("SIGNAL TENDED", NO_NIGHT, Edge.sky("f9", 1), "keeper(2) = 0; tell(4, 9) = 0\n", Edge.watch(0, 1, 8),
+            """
             pass(1) = 0; status(2) = 9; logged(3) = 0; pass(1) = 0; status(2) = 8; logged(3) = 1
             pass(5) = 0; status(2) = 3; logged(3) = 6; keeperOf(0, 1) = 6
             pass(1) = 0; status(2) = 3; logged(3) = 6; keeperOf(0, 5) = 1; pass(1) = 0; status(2) = 2; logged(3) = 7
@@ -283,9 +288,12 @@ public final class EdgeHourTest {
             Edge.each(9, 13, ship -> "shipOf(" + ship + ", 2) = 0"));
     }
 
-    /** Terms 2, "MAIL also if not DARK, in STORM: it is never LIT then)": by day and in the dark, in CLEAR, FOG, STORM. */
+    /**
+     * Terms 2, "MAIL also if not DARK, in STORM: it is never LIT then)": by day and in the dark, in CLEAR, FOG, STORM.
+     */
     private static void lightOfMail() {
-        Edge.holds("LIGHT of MAIL", Edge.sky("s6 c1 f1 s10 s6", 5), "keeper(0) = 0; tell(3, 9) = 0; tell(4, 9) = 0\n", """
+        Edge.holds("LIGHT of MAIL", Edge.sky("s6 c1 f1 s10 s6", 5), "keeper(0) = 0; tell(3, 9) = 0; tell(4, 9) = 0\n",
+            """
             plan(5, 0) = -1; plan(6, 0) = -1; plan(7, 0) = -1; plan(8, 0) = -1
             ship(7, 3) = 0; ship(7, 5) = 1; ship(7, 6) = 2; ship(7, 7) = 3; ship(7, 8) = 4; ship(6, 8) = 5
             ship(7, 17) = 6; ship(6, 17) = 7; ship(7, 18) = 8; ship(6, 18) = 9
@@ -297,7 +305,8 @@ public final class EdgeHourTest {
 
     /** Terms 2, "SOUND, in FOG, if there is no SIGNAL (not FISHER)": FOG without and with, CLEAR. */
     private static void soundLacked() {
-        Edge.holds("SOUND lacked", Edge.sky("f8 c1 f9", 3), "keeper(0) = 0; tell(4, 1) = 0; plan(7, 0) = -1; plan(9, 0) = -1\n",
+        Edge.holds("SOUND lacked", Edge.sky("f8 c1 f9", 3),
+            "keeper(0) = 0; tell(4, 1) = 0; plan(7, 0) = -1; plan(9, 0) = -1\n",
             Edge.each(0, 19, i -> "ship(" + (3 + i % 5) + ", " + (6 + i / 5) + ") = " + i), "pass(10) = 6\n", """
             shipOf(0, 2) = 0; shipOf(1, 2) = 1; shipOf(2, 2) = 1; shipOf(3, 2) = 1; shipOf(4, 2) = 1
             shipOf(5, 2) = 0; shipOf(6, 2) = 0; shipOf(7, 2) = 0; shipOf(8, 2) = 0; shipOf(9, 2) = 0
@@ -342,7 +351,8 @@ public final class EdgeHourTest {
 
     /** Terms 2, "Its own log gets what it met: 1 LIGHT, if LIT; 2 SOUND, if SIGNAL; 3 both; 0 nothing". */
     private static void ownLog() {
-        Edge.holds("a SHIP's own log", Edge.sky("f2 c1 f3 f1 c1", 5), "keeper(0) = 0; tell(4, 2) = 0\n", Edge.watch(0, 0, 3),
+        Edge.holds("a SHIP's own log", Edge.sky("f2 c1 f3 f1 c1", 5), "keeper(0) = 0; tell(4, 2) = 0\n",
+            Edge.watch(0, 0, 3),
             Edge.each(0, 7, hour -> "ship(3, " + hour + ") = " + hour), "plan(6, 0) = -1\n", """
             pass(1) = 1; shipOf(0, 3) = 2; tell(3, 9) = 0; pass(1) = 0; shipOf(1, 3) = 3
             pass(1) = 0; shipOf(2, 3) = 1; pass(1) = 0; shipOf(3, 3) = 1
@@ -351,7 +361,9 @@ public final class EdgeHourTest {
             """);
     }
 
-    /** Terms 2, "THE LOG, if it is TENDED, by him: LIT (1) or DARK (2), if it is DARK": at DAWN, at DUSK, LIT and not. */
+    /**
+     * Terms 2, "THE LOG, if it is TENDED, by him: LIT (1) or DARK (2), if it is DARK": at DAWN, at DUSK, LIT and not.
+     */
     private static void logInTheDark() {
         Edge.holds("THE LOG in the dark", "keeper(1) = 0; keeper(1) = 1; tell(3, 1) = 0\n", Edge.watch(1, 4, 7),
             Edge.watch(0, 17, 18), """
@@ -366,7 +378,8 @@ public final class EdgeHourTest {
 
     /** Terms 2, "SOUNDED (3), if SIGNAL": with COAL and without. */
     private static void logOfTheSignal() {
-        Edge.holds("THE LOG of the SIGNAL", Edge.sky("f9", 1), "keeper(0) = 0; tell(4, 2) = 0\n", Edge.watch(0, 5, 7), """
+        Edge.holds("THE LOG of the SIGNAL", Edge.sky("f9", 1), "keeper(0) = 0; tell(4, 2) = 0\n", Edge.watch(0, 5, 7),
+            """
             pass(5) = 5; status(7) = 0
             pass(1) = 1; status(7) = 2; log(0, 1) = 2; log(1, 0) = 5; log(1, 1) = 3; log(1, 2) = -1; log(1, 3) = 0
             pass(1) = 0; status(7) = 3; log(2, 0) = 6; log(2, 1) = 3; log(2, 2) = -1; log(2, 3) = 0
@@ -376,7 +389,8 @@ public final class EdgeHourTest {
 
     /** Terms 2, "for each SHIP, BY RANK: SAFE (4), MISS (5), WRECK (6), with its number". */
     private static void logOfShips() {
-        Edge.holds("THE LOG of SHIPS", Edge.sky("f1", 1), "keeper(0) = 0; plan(0, 0) = -1; plan(1, 0) = -1; tell(3, 1) = 0\n", """
+        Edge.holds("THE LOG of SHIPS", Edge.sky("f1", 1),
+            "keeper(0) = 0; plan(0, 0) = -1; plan(1, 0) = -1; tell(3, 1) = 0\n", """
             ship(3, 0) = 0; ship(4, 0) = 1; ship(3, 1) = 2; ship(6, 1) = 3; ship(5, 2) = 4; pass(1) = 0; status(7) = 3
             log(0, 1) = 1; log(0, 2) = -1; log(1, 1) = 5; log(1, 2) = 1; log(2, 1) = 4; log(2, 2) = 0
             pass(1) = 1; status(7) = 6
@@ -401,19 +415,22 @@ public final class EdgeHourTest {
      * 5, ASLEEP while the LAMP burns on at 6, ASLEEP at 8, 10 by day and 13; no SIGNAL and no SHIP of his comes in.
      */
     private static void filledIn() {
-        Edge.holds("FILLED IN", "keeper(2) = 0; tell(0, 10) = 6; tell(1, 13) = 18; tell(3, 7) = 0\n", Edge.watch(0, 0, 23), """
+        Edge.holds("FILLED IN", "keeper(2) = 0; tell(0, 10) = 6; tell(1, 13) = 18; tell(3, 7) = 0\n",
+            Edge.watch(0, 0, 23), """
             ship(3, 6) = 0; ship(3, 9) = 1; pass(6) = 0; status(7) = 6; log(5, 0) = 5; log(5, 1) = 1; keeperOf(0, 5) = 0
             pass(1) = 0; status(7) = 7; log(6, 0) = 6; log(6, 1) = 1; log(6, 2) = -1; log(6, 3) = 0; status(4) = 1
             pass(2) = 2; status(7) = 9; log(7, 0) = 7; log(7, 1) = 2; log(8, 0) = 8; log(8, 1) = 2
             keeperOf(0, 1) = 6; pass(1) = 1; status(7) = 10; log(9, 0) = 9; log(9, 1) = 1; log(9, 2) = -1; log(9, 3) = 0
             shipOf(1, 2) = 1; pass(2) = 0; keeperOf(0, 1) = 6; status(7) = 10
-            pass(1) = 0; keeperOf(0, 5) = 3; status(7) = 10; pass(1) = 1; status(7) = 11; log(10, 0) = 13; log(10, 1) = 2
+            pass(1) = 0; keeperOf(0, 5) = 3; status(7) = 10; pass(1) = 1; status(7) = 11; log(10, 0) = 13
+            log(10, 1) = 2
             """);
     }
 
     /** Terms 2, "If a BOY is ASLEEP on WATCH": not a HEAD, not a HAND, and not a BOY who isn't on WATCH. */
     private static void filledInByBoysAlone() {
-        Edge.holds("FILLED IN by a BOY alone", Edge.sky("s9", 1), "tell(0, 12) = 6; keeper(0) = 0; keeper(1) = 1; keeper(2) = 2\n",
+        Edge.holds("FILLED IN by a BOY alone", Edge.sky("s9", 1),
+            "tell(0, 12) = 6; keeper(0) = 0; keeper(1) = 1; keeper(2) = 2\n",
             "plan(0, 2) = -1; plan(1, 2) = -1; plan(2, 2) = -1; plan(4, 2) = -1\n", """
             pass(3) = 3; status(7) = 3; logged(2) = 3; keeperOf(2, 1) = 6
             pass(1) = 1; status(7) = 3; keeperOf(2, 1) = 4; keeperOf(2, 5) = 0
@@ -430,20 +447,24 @@ public final class EdgeHourTest {
 
     /** Six HEADS on four hours each, so that nobody sleeps and each of the 23 dark hours of a day is entered. */
     private static final String ALWAYS_TENDED = "tell(0, 12) = 6; tell(1, 13) = 18; tell(3, 9999) = 0\n"
-        + Edge.each(0, 5, k -> "keeper(0) = " + k) + Edge.each(0, 23, hour -> "plan(" + hour + ", " + hour / 4 + ") = -1");
+        + Edge.each(0, 5, k -> "keeper(0) = " + k) + Edge.each(0, 23,
+        hour -> "plan(" + hour + ", " + hour / 4 + ") = -1");
 
     /** Terms 2, "400 at most (then those that come are lost)": 399, 400, and no 401. */
     private static void entriesAtMost() {
         Edge.holds("entries at most", ALWAYS_TENDED, """
             pass(200) = 0; status(7) = 192; pass(200) = 0; status(7) = 383
             pass(16) = 0; status(7) = 399; log(398, 0) = 415; log(399, 0) = -102; logged(0) = 399
-            pass(1) = 0; status(7) = 400; log(399, 0) = 416; log(399, 1) = 1; log(399, 3) = 2; logged(0) = 400; logged(1) = 400
+            pass(1) = 0; status(7) = 400; log(399, 0) = 416; log(399, 1) = 1; log(399, 3) = 2; logged(0) = 400
+            logged(1) = 400
             pass(1) = 0; status(7) = 400; log(399, 0) = 416; log(400, 0) = -102; logged(0) = 400; logged(1) = 400
             pass(200) = 0; status(7) = 400; log(399, 0) = 416; log(0, 0) = 0; logged(0) = 400; status(16) = 0
             """);
     }
 
-    /** Terms 2, "Entries are kept by HOURS, in each as they came; .. (then those that come are lost)": within an HOUR. */
+    /**
+     * Terms 2, "Entries are kept by HOURS, in each as they came; .. (then those that come are lost)": within an HOUR.
+     */
     private static void entriesOfAnHourCutOff() {
         Edge.holds("entries of an HOUR cut off", ALWAYS_TENDED, """
             ship(5, 414) = 0; ship(3, 415) = 1; ship(6, 415) = 2; ship(7, 415) = 3; ship(3, 416) = 4
@@ -457,7 +478,8 @@ public final class EdgeHourTest {
 
     /** Terms 2, "TIRED: TENDED: his is 1 more, in STORM 2". */
     private static void tiredIfTended() {
-        Edge.holds("TIRED if TENDED", Edge.sky("c1 f1 s1 s1 c1", 5), "keeper(0) = 0; keeper(0) = 1\n", Edge.watch(0, 0, 4), """
+        Edge.holds("TIRED if TENDED", Edge.sky("c1 f1 s1 s1 c1", 5), "keeper(0) = 0; keeper(0) = 1\n",
+            Edge.watch(0, 0, 4), """
             pass(1) = 1; keeperOf(0, 1) = 1; pass(1) = 1; keeperOf(0, 1) = 2; pass(1) = 1; keeperOf(0, 1) = 4
             pass(1) = 1; keeperOf(0, 1) = 6; pass(1) = 1; keeperOf(0, 1) = 7; keeperOf(0, 4) = 5; keeperOf(1, 1) = 0
             """);
@@ -519,7 +541,8 @@ public final class EdgeHourTest {
 
     /** Terms 2, "all TIRED are 0": who TENDED, who is ASLEEP, who rests. */
     private static void boatRestsAll() {
-        Edge.holds("THE BOAT rests all", "keeper(0) = 0; keeper(2) = 1; keeper(1) = 2; boat(0, 14) = -1; boat(1, 1) = 168\n",
+        Edge.holds("THE BOAT rests all",
+            "keeper(0) = 0; keeper(2) = 1; keeper(1) = 2; boat(0, 14) = -1; boat(1, 1) = 168\n",
             Edge.watch(0, 0, 7), Edge.watch(1, 8, 14), """
             pass(14) = 6; keeperOf(0, 1) = 0; keeperOf(1, 1) = 6; plan(13, 0) = 1; plan(12, 0) = 1; plan(14, 2) = 1
             pass(1) = 0; status(11) = 1; keeperOf(0, 1) = 0; keeperOf(1, 1) = 0; keeperOf(2, 1) = 0; keeperOf(2, 4) = 1
@@ -543,15 +566,18 @@ public final class EdgeHourTest {
 
     /** Terms 2, "Then HOUR is 1 more". */
     private static void hourIsOneMore() {
-        Edge.holds("HOUR is 1 more", "status(0) = 0; pass(1) = 1; status(0) = 1; pass(22) = 10; status(0) = 23; pass(1) = 1\n",
+        Edge.holds("HOUR is 1 more",
+            "status(0) = 0; pass(1) = 1; status(0) = 1; pass(22) = 10; status(0) = 23; pass(1) = 1\n",
             "status(0) = 24; pass(1) = 1; status(0) = 25; days(1) = 1; status(0) = 26");
     }
 
     /** Terms 2, "UNLIT: HOURS that were DARK, but not LIT, so far": LIT and not, at DAWN, at DUSK. */
     private static void unlit() {
         Edge.holds("UNLIT", """
-            status(8) = 0; keeper(0) = 0; tell(3, 9) = 0; plan(3, 0) = -1; pass(3) = 3; status(8) = 3; pass(1) = 0; status(8) = 3
-            pass(1) = 0; status(8) = 3; pass(1) = 1; status(8) = 4; pass(1) = 0; status(8) = 4; pass(11) = 0; status(8) = 4
+            status(8) = 0; keeper(0) = 0; tell(3, 9) = 0; plan(3, 0) = -1; pass(3) = 3; status(8) = 3; pass(1) = 0
+            status(8) = 3
+            pass(1) = 0; status(8) = 3; pass(1) = 1; status(8) = 4; pass(1) = 0; status(8) = 4; pass(11) = 0
+            status(8) = 4
             pass(1) = 1; status(8) = 5; would(5, 0) = 5; fails() = 19; status(8) = 5; days(1) = 1; status(8) = 6
             """);
     }

@@ -148,7 +148,8 @@ public final class EdgeLightTest {
 
     /** Terms 1, "WEATHER: 0 CLEAR, 1 FOG, 2 STORM". */
     private static void weathers() {
-        Edge.holds("WEATHER", Edge.sky("c1 f1 s1", 3), "weather(0) = 0; weather(1) = 1; weather(2) = 2; weather(3) = 0");
+        Edge.holds("WEATHER", Edge.sky("c1 f1 s1", 3),
+            "weather(0) = 0; weather(1) = 1; weather(2) = 2; weather(3) = 0");
     }
 
     /** Terms 1, "THE SKY: RUNS (none at first; 20 at most)". */
@@ -156,7 +157,8 @@ public final class EdgeLightTest {
         Edge.holds("RUNS of THE SKY", "status(10) = 0\n", Edge.sky("f1", 1), "status(10) = 1\n",
             Edge.sky("f1" + " c1".repeat(18), 19), "status(10) = 19; weather(18) = 0; weather(19) = 1\n",
             Edge.sky("f1" + " c1".repeat(19), 20), "status(10) = 20; weather(19) = 0; weather(20) = 1\n",
-            Edge.sky("f1" + " c1".repeat(20), -360), "status(10) = 20; weather(19) = 0; weather(20) = 1; weather(21) = 0");
+            Edge.sky("f1" + " c1".repeat(20), -360),
+            "status(10) = 20; weather(19) = 0; weather(20) = 1; weather(21) = 0");
     }
 
     /** Terms 1, "each a WEATHER for 1 to 99 HOURS". */
@@ -256,7 +258,8 @@ public final class EdgeLightTest {
 
     /** Terms 1, "of a 21st RUN its letter". */
     private static void faultOfTheTwentyFirst() {
-        Edge.holds("FAULT of a 21st RUN", Edge.sky("c1" + " c1".repeat(19), 20), Edge.sky("c1" + " c1".repeat(20), -360),
+        Edge.holds("FAULT of a 21st RUN", Edge.sky("c1" + " c1".repeat(19), 20),
+            Edge.sky("c1" + " c1".repeat(20), -360),
             Edge.sky("c1" + " c1".repeat(19) + " c0", -360), Edge.sky("c1" + " c1".repeat(19) + " c", -360),
             Edge.sky("c1" + " c1".repeat(19) + " x1", -360), Edge.sky("c1" + " c1".repeat(19) + "  c1", -360),
             Edge.sky("c1" + " c1".repeat(18) + " c0", -358), "status(12) = 6; status(10) = 20");
@@ -340,7 +343,10 @@ public final class EdgeLightTest {
             """);
     }
 
-    /** Terms 1, "0 SHIP; 1 SMALL, 2 GREAT, each under SHIP; 3 FISHER, 4 PILOT, each under SMALL; .. 7 MAIL under LINER". */
+    /**
+     * Terms 1, "0 SHIP; 1 SMALL, 2 GREAT, each under SHIP; 3 FISHER, 4 PILOT, each under SMALL; .. 7 MAIL under
+     * LINER".
+     */
     private static void kindsUnderKinds() {
         Edge.holds("KINDS", Edge.each(3, 7, kind -> "ship(" + kind + ", 12) = " + (kind - 3)), "pass(13) = 6\n",
             Edge.each(3, 7, kind -> "show(" + kind + ", " + (kind - 3) + ") = 1"), """
