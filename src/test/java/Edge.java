@@ -23,9 +23,8 @@ final class Edge {
     private static final int FIRST_COUNT = 12;
     private static final Pattern FORM = Pattern.compile("(\\w+)\\(([^)]*)\\)(?: = (-?\\d+))?");
     private static final Set<String> ASKING = Set.of("element", "holds", "says", "weather", "dark", "keeperOf",
-    "shipOf",
-        "shipAt", "many", "log", "logged", "difference", "differences", "unlit", "would", "fails", "comes", "oil",
-        "better", "other", "idle", "judge", "status");
+        "shipOf", "shipAt", "many", "log", "logged", "difference", "differences", "unlit", "would", "fails", "comes",
+        "oil", "better", "other", "idle", "judge", "status");
     /** What these answer may be any number, so that none of it says that the call was refused. */
     private static final Set<String> NEVER_REFUSED = Set.of("element", "seed");
 
@@ -71,7 +70,7 @@ final class Edge {
         for (Call call : calls) {
             Check.due(edge + ": " + call.text, call.askOf(light), call.want);
         }
-        for (int i = 0; i < calls.size(); i++) {
+        for (int i = 0; i < calls.size() && i < MOST_CALLS - 1; i++) {
             if (calls.get(i).isRefused() || calls.get(i).isAsking()) {
                 dueAsIfSpared(edge, calls, i);
             }

@@ -33,6 +33,11 @@ public final class EdgeAskedTest {
         lowestBitsOfBooleans();
         refusalsAreCounted();
         refusalsByTheFirst();
+        refusalBad();
+        refusalOther();
+        refusalNothing();
+        refusalStuck();
+        refusalFull();
         Check.end();
     }
 
@@ -288,5 +293,49 @@ public final class EdgeAskedTest {
         Edge.holds("BAD ahead of FULL", Edge.each(0, 5, k -> "keeper(0) = " + k), Edge.fed("c".repeat(250)), """
             keeper(3) = -102; keeper(2) = -106; keeper(-1) = -102; feed(256) = -102; feed(255) = -106; feed(-1) = -102
             """, Edge.refusals(4, 0, 0, 0, 2));
+    }
+
+    /** REFUSALS, "-102 BAD a number that may not be, nothing of that number": beside a number and a thing that may be. */
+    private static void refusalBad() {
+        Edge.holds("BAD", """
+            tell(2, 0) = -102; tell(2, 1) = 1; tell(2, 4) = 1; tell(2, 5) = -102; keeperOf(0, 0) = -102; keeper(0) = 0
+            keeperOf(-1, 0) = -102; keeperOf(0, 0) = 0; keeperOf(1, 0) = -102; log(0, 0) = -102; plan(0, 0) = -1; pass(1) = 1
+            log(-1, 0) = -102; log(0, 0) = 0; log(1, 0) = -102
+            """, Edge.refusals(8, 0, 0, 0, 0));
+    }
+
+    /** REFUSALS, "-103 OTHER: a SHELF that holds another thing than is wanted": a ROW, a SHIP, NOTHING. */
+    private static void refusalOther() {
+        Edge.holds("OTHER", "ship(3, 5) = 0; keeper(0) = 0; row(0, 2, 40) = 1; show(1, 0) = 1\n", """
+            set(0, 0, 0) = 1; set(1, 0, 0) = -103; set(2, 0, 0) = -104; plans(0) = 1; plans(1) = -103; plans(2) = -104
+            other(0, 1) = 0; other(1, 1) = -103; other(2, 1) = -104; judge(0, 0, 0) = -1; judge(0, 1, 0) = -103
+            judge(0, 2, 0) = -104; copy(0, 0, 0, 0, 1) = 1; copy(0, 1, 0, 0, 1) = -103; copy(0, 2, 0, 0, 1) = -104
+            says(0, 0) = -103; says(1, 0) = 5; says(2, 0) = -104
+            """, Edge.refusals(0, 6, 6, 0, 0));
+    }
+
+    /** REFUSALS, "-104 NOTHING: a SHELF that holds NOTHING": at first, and when it is shown NOTHING. */
+    private static void refusalNothing() {
+        Edge.holds("NOTHING", """
+            set(0, 0, 0) = -104; row(0, 0, 1) = 1; set(0, 0, 0) = 1; show(0, -1) = 1; set(0, 0, 0) = -104; ship(3, 5) = 0
+            says(0, 0) = -104; show(0, 0) = 1; says(0, 0) = 5; show(0, -1) = 1; says(0, 0) = -104; row(0, 0, 0) = 1
+            set(0, 0, 0) = -102; says(0, 0) = -103
+            """, Edge.refusals(1, 1, 4, 0, 0));
+    }
+
+    /** REFUSALS, "-105 STUCK: it can't be as things stand": no KEEPERS, no image; then one of each. */
+    private static void refusalStuck() {
+        Edge.holds("STUCK", """
+            better(0, 1) = -105; back() = -105; keeper(0) = 0; better(0, 1) = -1; back() = -105; image() = 1; back() = 1
+            better(0, 1) = -1; status(5) = 1
+            """, Edge.refusals(0, 0, 0, 3, 0));
+    }
+
+    /** REFUSALS, "-106 FULL": the last for which there is room, the next, and again when there is room. */
+    private static void refusalFull() {
+        Edge.holds("FULL", Edge.each(0, 4, k -> "keeper(0) = " + k), Edge.each(1, 249, size -> "feed(99) = " + size), """
+            image() = 1; keeper(0) = 5; keeper(0) = -106; back() = 1; keeper(0) = 5; feed(99) = 250; feed(99) = -106
+            wipe() = 250; feed(99) = 1; status(5) = 6; status(17) = 1
+            """, Edge.refusals(0, 0, 0, 0, 2));
     }
 }

@@ -36,6 +36,7 @@ public final class EdgeThoughtTest {
         oilOfTheWick();
         oilIsTheLeast();
         oilWithTheBoat();
+        oilOfAllHours();
         betterHour();
         betterHours();
         betterOfSeveralTheLeast();
@@ -260,6 +261,14 @@ public final class EdgeThoughtTest {
             boat(2, 7) = 6
             oil(24) = 6; boat(2, 9999) = 7; oil(24) = 6; boat(0, 18) = 6; oil(24) = 12; oil(48) = 18
             """);
+    }
+
+    /** Promise 33, "The least OIL (0 to 9999)": the most that can be needed, all dark hours TENDED with the WICK at 4. */
+    private static void oilOfAllHours() {
+        Edge.holds("oil of all HOURS", "tell(0, 12) = 6; tell(1, 13) = 18; tell(2, 4) = 1\n",
+            Edge.each(0, 5, k -> "keeper(0) = " + k), Edge.each(0, 23, hour -> "plan(" + hour + ", " + hour / 4 + ") = -1"),
+            "oil(198) = 760; oil(199) = 764; oil(200) = 768; oil(201) = -102; tell(3, 768) = 0; would(200, 0) = 0\n",
+            "tell(3, 767) = 768; would(200, 0) = 1; tell(3, 0) = 767; would(200, 0) = 192; oil(200) = 768");
     }
 
     /** Promise 34, "for an hour .. BAD": -1, 0, 1, 22, 23, 24. */
