@@ -47,6 +47,7 @@ public final class EdgeHourTest {
         boatByDay();
         boatBringsAtMost();
         boatRestsAll();
+        boatRestsSixKeepers();
         boatIsDueAgain();
         hourIsOneMore();
         unlit();
@@ -551,6 +552,16 @@ public final class EdgeHourTest {
         Edge.holds("THE BOAT rests who is ASLEEP", "keeper(2) = 0; boat(0, 14) = -1\n", Edge.watch(0, 8, 15), """
             pass(14) = 6; keeperOf(0, 1) = 6; pass(1) = 0; status(11) = 1; keeperOf(0, 5) = 1; keeperOf(0, 1) = 0
             pass(1) = 0; keeperOf(0, 1) = 1; keeperOf(0, 5) = 1
+            """);
+    }
+
+    /** Terms 2, "all TIRED are 0": the first of six KEEPERS and the sixth; those beside them in THE PLAN were TIRED too. */
+    private static void boatRestsSixKeepers() {
+        Edge.holds("THE BOAT rests six KEEPERS", Edge.each(0, 5, k -> "keeper(0) = " + k), Edge.watch(5, 6, 9),
+            Edge.watch(0, 10, 13), """
+            pass(10) = 6; keeperOf(5, 1) = 4; pass(2) = 0; keeperOf(5, 1) = 0; keeperOf(0, 1) = 2; boat(0, 13) = -1
+            pass(1) = 0; keeperOf(0, 1) = 3; pass(1) = 0; status(11) = 1; keeperOf(0, 1) = 0; boat(0, 33) = 181
+            pass(19) = 12; keeperOf(5, 1) = 3; pass(1) = 0; status(11) = 2; keeperOf(5, 1) = 0; keeperOf(4, 1) = 0
             """);
     }
 

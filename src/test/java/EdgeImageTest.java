@@ -3,6 +3,7 @@ public final class EdgeImageTest {
     public static void main(String[] args) {
         imageOfTheFirst();
         imageKeepsAll();
+        imageKeepsWhatIsCounted();
         imageWithoutTheTape();
         imageWithoutShelves();
         imageWithoutRefusals();
@@ -60,6 +61,21 @@ public final class EdgeImageTest {
             shipAt(9, 1) = -1
             pass(1) = 1; status(4) = 0
             """);
+    }
+
+    /** Promise 40, "All is kept": how often he TENDED and was ASLEEP, THE BOAT came, what a SHIP met; twice alike. */
+    private static void imageKeepsWhatIsCounted() {
+        String kept = """
+            keeperOf(0, 1) = 3; keeperOf(0, 4) = 3; keeperOf(0, 5) = 0; status(11) = 0; status(9) = 6; status(8) = 3
+            unlit() = 7; shipOf(0, 2) = -1; shipOf(0, 3) = -1; shipOf(1, 2) = 1; shipOf(1, 3) = 0; status(7) = 4
+            """;
+        String behind = """
+            pass(5) = 3; keeperOf(0, 1) = 0; keeperOf(0, 4) = 7; keeperOf(0, 5) = 1; status(11) = 2; status(9) = 8
+            unlit() = 63; shipOf(0, 2) = 1; shipOf(0, 3) = 0; shipOf(1, 2) = 1; status(7) = 8; status(8) = 6
+            """;
+        Edge.holds("image keeps what is counted", "keeper(2) = 0; boat(0, 6) = -1; boat(1, 1) = 168\n",
+            Edge.watch(0, 0, 7), "ship(3, 5) = 0; ship(3, 2) = 1; pass(3) = 3; image() = 1\n", kept, behind,
+            "back() = 1\n", kept, behind, "back() = 1\n", kept);
     }
 
     /**

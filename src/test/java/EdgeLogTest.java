@@ -31,6 +31,8 @@ public final class EdgeLogTest {
         differenceOfNone();
         differenceByRank();
         differenceOfTheLeastKind();
+        differenceOfTheFirstEntry();
+        differenceOfTheLastEntry();
         differencesOfWhom();
         differencesOfEach();
         differencesOfNoKeepers();
@@ -156,6 +158,33 @@ public final class EdgeLogTest {
         Edge.holds("difference of the least KIND", "keeper(2) = 0; tell(0, 12) = 6\n", Edge.watch(0, 0, 6), """
             ship(3, 6) = 0; ship(7, 5) = 1; ship(7, 7) = 2; pass(8) = 8; differences(-1) = 1; difference(0, 0) = 6
             difference(0, 1) = 0; difference(0, 2) = 0; difference(1, 0) = -102
+            """);
+    }
+
+    /** Promise 27, "The i-th of DIFFERENCES": the first entry of all, of a BOY who is TIRED by day, and the next. */
+    private static void differenceOfTheFirstEntry() {
+        Edge.holds("difference of the first entry", "keeper(2) = 0; tell(0, 0) = 6\n", Edge.watch(0, 12, 21), """
+            ship(3, 18) = 0; ship(3, 19) = 1; ship(3, 21) = 2; pass(18) = 0; status(7) = 0; keeperOf(0, 1) = 6
+            differences(-1) = 0; pass(1) = 1; log(0, 1) = 1; differences(-1) = 1; differences(0) = 1
+            difference(0, 0) = 18; difference(0, 1) = 0; difference(0, 2) = 0; pass(3) = 3; log(1, 1) = 2
+            differences(-1) = 2; difference(0, 0) = 18; difference(1, 0) = 21; difference(1, 1) = 2
+            """);
+    }
+
+    /**
+     * Promise 27, "The i-th of DIFFERENCES": by the last entry that THE LOG can hold, and none by one that is lost. A BOY
+     * has the hours 2 to 8 and sleeps in the last of them, so that HOURS 392, 416 and 440 are FILLED IN.
+     */
+    private static void differenceOfTheLastEntry() {
+        Edge.holds("difference of the last entry", Edge.each(0, 4, k -> "keeper(0) = " + k), """
+            keeper(2) = 5; tell(0, 12) = 6; tell(1, 13) = 18; ship(3, 392) = 0; ship(3, 416) = 1; ship(3, 440) = 2
+            """, Edge.watch(0, 0, 1), Edge.watch(5, 2, 8), Edge.watch(1, 9, 12), Edge.watch(2, 13, 16),
+            Edge.watch(3, 17, 20), Edge.watch(4, 21, 23), """
+            pass(200) = 192; pass(192) = 184; differences(-1) = 0; pass(1) = 1; differences(-1) = 1; pass(23) = 22
+            status(7) = 399; differences(-1) = 1; pass(1) = 1; status(7) = 400; log(399, 0) = 416; log(399, 1) = 1
+            log(399, 3) = 5; differences(-1) = 2; difference(0, 0) = 392; difference(1, 0) = 416; difference(1, 1) = 1
+            pass(24) = 23; shipOf(2, 3) = 0; keeperOf(5, 5) = 19; differences(-1) = 2; differences(5) = 2
+            difference(1, 0) = 416; difference(2, 0) = -102
             """);
     }
 
