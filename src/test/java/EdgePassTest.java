@@ -44,7 +44,7 @@ public final class EdgePassTest {
             """);
     }
 
-    /** Promise 18, "n HOURS PASS": one by one they are as all at once. */
+    /** Promise 18, "n HOURS (0 to 200) PASS": one by one they are as all at once. */
     private static void passOneByOne() {
         String light = "keeper(0) = 0; keeper(2) = 1; tell(3, 9) = 0\n" + Edge.watch(0, 0, 3) + Edge.watch(1, 18, 23);
         String behind = "status(0) = 24; status(1) = 0; status(8) = 3; keeperOf(0, 1) = 0; keeperOf(1, 1) = 6; status(7) = 10";

@@ -261,7 +261,7 @@ public final class EdgeShelvesTest {
             Edge.refusals(0, 9, 3, 0, 0));
     }
 
-    /** Promise 4, "BAD SHELVES; OTHER; NOTHING; BAD the others.": each ahead of all that come behind it. */
+    /** Promise 4, "BAD SHELVES; OTHER .. NOTHING; BAD the others.": each ahead of all that come behind it. */
     private static void copyRefused() {
         Edge.holds("copy refused", ALL_SORTS, """
             copy(8, 0, 0, 0, 1) = -102; copy(0, 8, 0, 0, 1) = -102; copy(1, 8, 0, 0, 1) = -102

@@ -86,7 +86,7 @@ public final class EdgeThoughtTest {
             """);
     }
 
-    /** Promise 30, each of what it tells, by HOURS: from 0 on as OIL, COAL and the BOY's strength run out. */
+    /** Promise 30, "how many are DARK, but not LIT (what 0), OIL then (1)" and the rest: as OIL, COAL, strength run out. */
     private static void wouldOfEach() {
         Edge.holds("would of each", LONG_NIGHT, would(0, 0, 5, 2, 0, 0, 0), would(1, 0, 4, 1, 0, 0, 0),
             would(2, 0, 3, 0, 0, 0, 0),
